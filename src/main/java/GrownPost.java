@@ -1620,7 +1620,6 @@ public final class GrownPost {
             this.draft = draft;
         }
 
-        @Override
         boolean readLine() {
             switch (tokens.code()) {
                 case LETTER:
@@ -1738,7 +1737,6 @@ public final class GrownPost {
             this.draft = draft;
         }
 
-        @Override
         boolean readLine() {
             int from = tokens.takeKind();
             if (from == NONE || !tokens.pass(TO)) {

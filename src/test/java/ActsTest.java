@@ -286,6 +286,8 @@ public final class ActsTest {
         due.is("latest 2", x.latest(2), -1);
         x.prune(2, 1);
         due.is("latest 1, of several the least", x.latest(1), 1);
+        GrownPost one = Due.world("letter from 1 temper 2 a", "");
+        due.is("a first line counts", one.latest(0), 0);
         due.is("none at all", new GrownPost().latest(0), -1);
     }
 

@@ -138,6 +138,11 @@ public final class AheadTest {
         due.is("a at first, l, fg", x.send(3, 7, 0, 3, true), 13 + 13 + 1);
         GrownPost y = Due.world("week 10", "g to l if before > 4 and before < 6 and sender < 4 and temper > 6;l to a");
         due.is("fg alone", y.send(3, 7, 11, 1, false), 12 + 12 * 5 + 6);
+        GrownPost twice = Due.world("", "a to b if before < 1");
+        due.is("aa is the first of two", twice.send(0, 0, 1, 1, false), 1);
+        due.is("b alone, those with b last, aa", twice.send(0, 0, 1, 1, true), 14);
+        due.is("aa", Due.world("", "a to l if before < 1;l to a").send(0, 0, 11, 1, false), 12);
+        due.is("ll", Due.world("", "l to k if before > 10 and before < 12;k to a").send(0, 0, 10, 1, false), 155);
         due.is("another sender", y.send(4, 7, 11, 1, false), -1);
         due.is("another temper", y.send(3, 6, 11, 1, false), -1);
     }

@@ -69,6 +69,8 @@ public final class LookTest {
         due.is("one line", x.senseless(2), -1);
         due.is("a to a", x.senseless(3), 1);
         due.noLetter("senseless 4", () -> x.senseless(4));
+        GrownPost first = Due.world("letter from 1 temper 2 ab", "a to b;a to c");
+        due.is("the law's first line leads", first.senseless(0), -1);
         GrownPost none = new GrownPost();
         Due.post(none, "letter from 1 temper 2 ab");
         due.is("without a law", none.senseless(0), 1);
@@ -122,6 +124,10 @@ public final class LookTest {
         x.copy(4);
         x.copy(3);
         due.is("e and e now, c and c now", x.drawer(), 36);
+        GrownPost late = Due.world("letter from 1 temper 2 a;letter from 1 temper 2 b", "a to b if week > 38");
+        due.is("40 is the last", late.drawer(), 1);
+        late = Due.world("letter from 1 temper 2 a;letter from 1 temper 2 b", "a to b if week > 39");
+        due.is("41 is too late", late.drawer(), -1);
     }
 
     private static void bounds() {
@@ -159,6 +165,8 @@ public final class LookTest {
         due.is("open ones too", x.soonest(0), 3);
         due.is("none", x.soonest(1), -1);
         due.is("of several the least", x.soonest(2), 1);
+        GrownPost late = Due.world("letter from 1 temper 2 a;letter from 1 temper 2 a;promise a b", "a to b if week > 38");
+        due.is("40 is the last, the first letter", late.soonest(0), 0);
         due.noLetter("promise 3", () -> x.soonest(3));
         due.noLetter("promise -1", () -> x.soonest(-1));
     }
@@ -226,6 +234,9 @@ public final class LookTest {
         due.is("never", x.ripe(1, false), 0);
         due.is("none", x.ripe(1, true), 0);
         due.noLetter("ripe 2", () -> x.ripe(2, false));
+        GrownPost late = Due.world("letter from 1 temper 2 a;promise a b", "a to b if week > 38");
+        due.is("40 is the last", late.ripe(0, false), 40);
+        due.is("40 is the last", late.ripe(0, true), 1);
         GrownPost none = Due.world("letter from 1 temper 2 a", "a to a");
         due.is("without promises", none.ripe(0, false), 0);
         due.is("without promises", none.ripe(0, true), 0);
@@ -352,24 +363,24 @@ public final class LookTest {
         due.noNumber("n -1", () -> x.trial(-1, -1));
     }
 
-    /** Slips stop a LETTER, as nothing but a follows anything: the fewest is by a seed that slips at once. */
+    /** With SLIP 100 come, from SEED 0 on: ab, kh, fc, di, kd, jf, da, cg. */
     private static void spans() {
-        GrownPost x = Due.world("slip 50;letter from 1 temper 2 a", "a to a");
-        int fewest = 99;
-        int most = 0;
-        for (int seed = 1; seed <= 6; seed++) {
-            x.seed(seed);
-            int lines = x.trial(3, -1);
-            fewest = Math.min(fewest, lines);
-            most = Math.max(most, lines);
-        }
+        GrownPost x = Due.world("slip 100;letter from 1 temper 2 a", "a to a;k to k;h to h");
         x.seed(7);
-        due.is("fewest", x.span(3, false), fewest);
-        due.is("most", x.span(3, true), most);
-        due.is("they are not one", fewest < most, true);
+        due.is("kh from 1 alone", x.span(3, true), 4);
+        due.is("f from 2, and others", x.span(3, false), 2);
+        Due.law(x, "a to a;d to d");
+        due.is("da from 6 alone", x.span(3, true), 4);
+        Due.law(x, "a to a;c to c");
+        due.is("neither a from 0 nor c from 7", x.span(2, true), 2);
+        Due.law(x, "a to a;k to a;d to a;f to a");
+        due.is("j from 5 stops", x.span(2, false), 2);
+        due.is("others do not", x.span(2, true), 3);
         due.is("now", x.span(0, false), 1);
+        due.is("now", x.span(0, true), 1);
         due.is("seed stays", x.seed(1), 7);
         due.is("week stays", x.count(4), 0);
+        due.is("LINES stay", x.count(6), 1);
         due.noNumber("41", () -> x.span(41, false));
         due.noNumber("-1", () -> x.span(-1, true));
         due.is("without letters", new GrownPost().span(40, true), 0);

@@ -132,6 +132,8 @@ public final class TextsTest {
         due.wrongPost(x, "  stamp", 2);
         due.wrongPost(x, "slips 1", 0);
         due.wrongPost(x, "slip\t1", 4);
+        due.wrongPost(x, "slipz 1", 0);
+        due.wrongPost(x, "slip 1a", 6);
         due.is("nothing stays", x.count(0) + x.count(1) + x.count(2) + x.count(4) + x.count(5), 0);
         due.rightPost(x, "week 7", 1);
         due.wrongPost(x, "week 6", 5);
@@ -263,6 +265,9 @@ public final class TextsTest {
         holds("season > 1 and season < 3", true);
         holds("winter", false);
         holds("not winter", true);
+        holds("not (1 < 2)", false);
+        holds("not not hot", false);
+        holds("winter or not 2 > 1", false);
         holds("hot", false);
         holds("hot or not hot", true);
         holds("hot and hot or not hot", true);
