@@ -68,13 +68,11 @@ public final class GrownPost {
     private int tapeSize;
     private int wrongByte = NONE;
     private final World now = new World();
-    private final World draft = new World();
     private final World kept = new World();
     private boolean isKept;
     private final Memory memory = new Memory();
-    private final Tokens tokens = new Tokens();
-    private final PostReader postReader = new PostReader(tokens, draft);
-    private final LawReader lawReader = new LawReader(tokens, draft.law);
+    private final PostReader postReader = new PostReader();
+    private final LawReader lawReader = new LawReader();
     private final Sight sight = new Sight();
     private final Sight otherSight = new Sight();
     private final Bag trialBag = new Bag();
@@ -108,32 +106,30 @@ public final class GrownPost {
     }
 
     public int post() throws IllegalArgumentException, UnsupportedOperationException {
-        draft.become(now);
-        readTape();
-        boolean right = postReader.readText(MOST_TEXT_LINES);
-        wrongByte = tokens.wrong;
+        postReader.draft.become(now);
+        boolean right = postReader.readText(tape, tapeSize, MOST_TEXT_LINES);
+        endReading(postReader.tokens.wrong);
         if (!right) {
             throw new IllegalArgumentException("the text of THE POST is wrong");
         }
         if (now.texts >= MOST_TEXTS) {
             throw new UnsupportedOperationException("there are 12 texts");
         }
-        draft.texts++;
-        now.become(draft);
+        postReader.draft.texts++;
+        now.become(postReader.draft);
         memory.forget();
         return now.texts;
     }
 
     public int law() throws IllegalArgumentException {
-        draft.law.clear();
-        readTape();
-        boolean right = lawReader.readText(MOST_LAW_LINES);
-        wrongByte = tokens.wrong;
+        lawReader.draft.clear();
+        boolean right = lawReader.readText(tape, tapeSize, MOST_LAW_LINES);
+        endReading(lawReader.tokens.wrong);
         if (!right) {
             throw new IllegalArgumentException("the text of THE LAW is wrong");
         }
-        draft.law.told = true;
-        now.law.become(draft.law);
+        lawReader.draft.told = true;
+        now.law.become(lawReader.draft);
         memory.forget();
         return now.law.size;
     }
@@ -743,9 +739,9 @@ public final class GrownPost {
         }
     }
 
-    private void readTape() {
-        tokens.scan(tape, tapeSize);
+    private void endReading(int wrong) {
         tapeSize = 0;
+        wrongByte = wrong;
     }
 
     /**
@@ -1584,15 +1580,13 @@ public final class GrownPost {
 
     /** Reads texts: LINE { ; LINE }. */
     private abstract static class TextReader {
-        final Tokens tokens;
-
-        TextReader(Tokens tokens) {
-            this.tokens = tokens;
-        }
+        final Tokens tokens = new Tokens();
 
         abstract boolean readLine();
 
-        boolean readText(int mostLines) {
+        /** Whether a text is right; where it is wrong, the tokens tell. */
+        boolean readText(int[] text, int size, int mostLines) {
+            tokens.scan(text, size);
             if (tokens.code() == END_OF_TEXT) {
                 return true;
             }
@@ -1613,12 +1607,7 @@ public final class GrownPost {
 
     /** Reads a text of THE POST into a draft. */
     private static final class PostReader extends TextReader {
-        private final World draft;
-
-        PostReader(Tokens tokens, World draft) {
-            super(tokens);
-            this.draft = draft;
-        }
+        private final World draft = new World();
 
         boolean readLine() {
             switch (tokens.code()) {
@@ -1730,12 +1719,7 @@ public final class GrownPost {
 
     /** Reads THE LAW into a draft. */
     private static final class LawReader extends TextReader {
-        private final Law draft;
-
-        LawReader(Tokens tokens, Law draft) {
-            super(tokens);
-            this.draft = draft;
-        }
+        private final Law draft = new Law();
 
         boolean readLine() {
             int from = tokens.takeKind();

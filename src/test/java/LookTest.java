@@ -269,6 +269,9 @@ public final class LookTest {
         due.is("sender", x.author(0, true), 5);
         due.is("of several the least", x.author(1, false), 0);
         due.is("of several the least", x.author(1, true), 0);
+        GrownPost none = Due.world("letter from 7 temper 3 ab", "a to b if temper > 9 or sender > 9");
+        due.is("no temper is 10", none.author(0, false), 0);
+        due.is("no sender is 10", none.author(0, true), 0);
         due.is("nothing changes", x.letter(0, 2), 7);
         due.is("nothing changes", x.letter(0, 1), 0);
         due.noLetter("author 2", () -> x.author(2, false));

@@ -13,6 +13,7 @@ public final class TextsTest {
         lawDepth();
         lawMeaning();
         lawReplaces();
+        fullTapes();
         due.close();
     }
 
@@ -299,5 +300,20 @@ public final class TextsTest {
         due.rightLaw(x, "", 0);
         due.is("none", x.count(3), 0);
         due.is("nothing follows", x.letter(0, 7), -1);
+    }
+
+    private static void fullTapes() {
+        GrownPost x = new GrownPost();
+        due.wrongPost(x, ";".repeat(400), 0);
+        due.wrongLaw(x, ")".repeat(400), 0);
+        due.wrongLaw(x, "a to b if 1<1" + "+1".repeat(193) + ";", 400);
+        due.rightLaw(x, "a to b if 1<1" + "+1".repeat(193) + " ", 1);
+        Due.post(x, "letter from 1 temper 1 a");
+        due.is("1 is below 194", x.letter(0, 7), 1);
+        due.wrongPost(x, "9".repeat(400), 0);
+        due.wrongPost(x, "slip " + "9".repeat(395), 5);
+        due.wrongPost(x, "z".repeat(400), 0);
+        due.rightPost(x, " ".repeat(394) + "slip 7", 2);
+        due.is("slip", x.count(5), 7);
     }
 }
