@@ -191,9 +191,8 @@ public final class GrownPost {
 
     public int write(int sender, int temper) throws IllegalArgumentException, UnsupportedOperationException {
         int bytes = tapeSize;
-        int first = firstKindByte(bytes);
         tapeSize = 0;
-        if (first == NONE || isNoDigit(sender) || isNoDigit(temper)) {
+        if (!areKinds(bytes) || isNoDigit(sender) || isNoDigit(temper)) {
             throw new IllegalArgumentException("the TAPE, SENDER or TEMPER is wrong");
         }
         if (now.bag.size >= MOST_LETTERS) {
@@ -203,7 +202,7 @@ public final class GrownPost {
         Mail mail = now.bag.mails[now.bag.size];
         mail.begin(sender, temper);
         for (int i = 0; i < bytes && i < TAPE_ROOM; i++) {
-            mail.add(tape[i] - first, now.bag.week);
+            mail.add(tape[i], now.bag.week);
         }
         now.bag.size++;
         return now.bag.size - 1;
@@ -744,21 +743,17 @@ public final class GrownPost {
         wrongByte = wrong;
     }
 
-    /**
-     * The byte that stands for the first KIND, if the TAPE's bytes are KINDS; NONE, if they are not. The
-     * document calls KINDS both a to l and 0 to 11, so bytes may be either, but all of one sort.
-     */
-    private int firstKindByte(int bytes) {
+    /** Whether the TAPE's first bytes are the KINDS of a LETTER: numbers, where texts have the signs a to l. */
+    private boolean areKinds(int bytes) {
         if (bytes < 1 || bytes > MOST_LINES) {
-            return NONE;
+            return false;
         }
-        int first = tape[0] < KINDS ? 0 : 'a';
         for (int i = 0; i < bytes; i++) {
-            if (tape[i] < first || tape[i] >= first + KINDS) {
-                return NONE;
+            if (tape[i] < 0 || tape[i] >= KINDS) {
+                return false;
             }
         }
-        return first;
+        return true;
     }
 
     private Mail mailOf(int letter) {

@@ -88,17 +88,18 @@ public final class ActsTest {
         due.is("not hot", x.letter(1, 4), 0);
         due.is("week", x.line(1, 2, true), 5);
         due.is("tape used up", x.end(1), false);
-        Due.put(x, new byte[] {0, 11, 5});
-        due.is("write by numbers", x.write(0, 9), 2);
-        due.lines("written by numbers", x, 2, "alf");
+        Due.put(x, new byte[] {0, 11, 5, 12, 'a'});
+        due.is("end 3", x.end(3), true);
+        due.is("write 0, 11, 5, whatever stood behind them", x.write(0, 9), 2);
+        due.lines("KINDS are numbers", x, 2, "alf");
         due.is("write 24", Due.write(x, "aaaaaaaaaaaabbbbbbbbbbbb", 0, 0), 3);
         for (int i = 4; i < 8; i++) {
             due.is("write " + i, Due.write(x, "a", 0, 0), i);
         }
-        Due.put(x, "a");
+        Due.putKinds(x, "a");
         due.fails("a ninth", UnsupportedOperationException.class, () -> x.write(0, 0));
         due.is("tape used up", x.end(1), false);
-        Due.put(x, "m");
+        Due.putKinds(x, "m");
         due.noNumber("a wrong ninth", () -> x.write(0, 0));
         due.is("fault stays", x.fault(), -1);
     }
@@ -106,14 +107,20 @@ public final class ActsTest {
     private static void writingWrong() {
         GrownPost x = new GrownPost();
         due.noNumber("an empty TAPE", () -> x.write(0, 0));
-        String[] wrong = {"m", "abcm", " a", "a ", "A", "`", "aaaaaaaaaaaabbbbbbbbbbbbc", "\u00ff", "a\u0000", "\u0000a", "\f"};
-        for (String text : wrong) {
+        for (String row : new String[] {"m", "abcm", "`", "a`", "aaaaaaaaaaaabbbbbbbbbbbbc"}) {
+            Due.putKinds(x, row);
+            due.noNumber("write the numbers of '" + row + "'", () -> x.write(0, 0));
+            due.is("tape used up", x.end(1), false);
+        }
+        // The signs a to l are KINDS in texts alone.
+        for (String text : new String[] {"a", "l", "abc", "a\u0000", "\u0000a", " ", "0", "\f", "\u00ff", "\u0000\u0080"}) {
             Due.put(x, text);
-            due.noNumber("write '" + text + "'", () -> x.write(0, 0));
+            due.noNumber("write the signs '" + text + "'", () -> x.write(0, 0));
+            due.is("tape used up", x.end(1), false);
         }
         int[][] digits = {{-1, 0}, {10, 0}, {0, -1}, {0, 10}};
         for (int[] pair : digits) {
-            Due.put(x, "a");
+            Due.putKinds(x, "a");
             due.noNumber("write " + pair[0] + ", " + pair[1], () -> x.write(pair[0], pair[1]));
             due.is("tape used up", x.end(1), false);
         }

@@ -87,8 +87,17 @@ final class Due {
         return x.law();
     }
 
+    /** KINDS told as a to l, put on an empty TAPE as the numbers that write takes. */
+    static void putKinds(GrownPost x, String kinds) {
+        byte[] bytes = new byte[kinds.length()];
+        for (int i = 0; i < bytes.length; i++) {
+            bytes[i] = (byte) (kinds.charAt(i) - 'a');
+        }
+        put(x, bytes);
+    }
+
     static int write(GrownPost x, String kinds, int sender, int temper) {
-        put(x, kinds);
+        putKinds(x, kinds);
         return x.write(sender, temper);
     }
 

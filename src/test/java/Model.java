@@ -542,14 +542,7 @@ public final class Model {
 
     public int write(int sender, int temper) {
         String row = text();
-        if (row.matches("[\0-\13]{1,24}")) {
-            StringBuilder signs = new StringBuilder();
-            for (char c : row.toCharArray()) {
-                signs.append((char) (c + 'a'));
-            }
-            row = signs.toString();
-        }
-        if (!row.matches("[a-l]{1,24}")) {
+        if (!row.matches("[\0-\13]{1,24}")) {
             throw new IllegalArgumentException();
         }
         within(sender, 0, 9);
@@ -560,7 +553,7 @@ public final class Model {
         act();
         Letter l = new Letter(List.of(), List.of(), temper, sender, false, false);
         for (char c : row.toCharArray()) {
-            l = l.plus(c - 'a', week);
+            l = l.plus(c, week);
         }
         letters.add(l);
         return letters.size() - 1;

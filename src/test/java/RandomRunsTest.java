@@ -80,7 +80,7 @@ public final class RandomRunsTest {
             } else if (sort < 4) {
                 same = text("law", lawText(), told);
             } else if (sort < 6) {
-                same = text("write", row(random.nextInt(10) == 0 ? 23 + random.nextInt(4) : random.nextInt(6)), told);
+                same = text("write", row(signOrNumber(false), random.nextInt(10) == 0 ? 23 + random.nextInt(4) : random.nextInt(6)), told);
             } else {
                 same = call(CALLS[random.nextInt(CALLS.length)].split(" "), told);
             }
@@ -185,9 +185,13 @@ public final class RandomRunsTest {
 
     // ---- texts
 
-    private String row(int length) {
+    /** What the first KIND is in a row: now and then a sign where a number is due, or a number for a sign. */
+    private int signOrNumber(boolean sign) {
+        return sign == (random.nextInt(8) > 0) ? 'a' : 0;
+    }
+
+    private String row(int base, int length) {
         StringBuilder row = new StringBuilder();
-        int base = random.nextInt(8) == 0 ? 0 : 'a';
         int kinds = random.nextInt(30) == 0 ? 13 : random.nextBoolean() ? 3 : 12;
         for (int i = 0; i < length; i++) {
             row.append((char) (base + random.nextInt(kinds)));
@@ -217,7 +221,7 @@ public final class RandomRunsTest {
             case 0:
             case 1:
             case 2: {
-                String kinds = row(1 + random.nextInt(random.nextInt(8) == 0 ? 25 : 5));
+                String kinds = row(signOrNumber(true), 1 + random.nextInt(random.nextInt(8) == 0 ? 25 : 5));
                 return "letter from " + below(10) + " temper " + below(10) + " " + kinds;
             }
             case 3:
