@@ -3,6 +3,7 @@ import java.nio.charset.StandardCharsets;
 /** What the tests share: answers that are due, and texts that are fed. */
 final class Due {
     private final String name;
+    private String part = "";
     private int asked;
     private int wrong;
 
@@ -13,6 +14,17 @@ final class Due {
     /** A call whose exceptions are looked at. */
     interface Call {
         void run();
+    }
+
+    /** What the answers from now on belong to. */
+    void begin(String part) {
+        this.part = part.isEmpty() ? "" : part + ": ";
+    }
+
+    /** A test was cut off by what a call threw. */
+    void cutOff(RuntimeException e) {
+        asked++;
+        tell("was cut off by " + e);
     }
 
     void is(String call, long got, long want) {
@@ -49,7 +61,7 @@ final class Due {
 
     private void tell(String text) {
         wrong++;
-        System.out.println(name + ": " + text);
+        System.out.println(name + ": " + part + text);
     }
 
     /** Ends the test: exit code 1, if an answer was wrong. */
@@ -123,6 +135,14 @@ final class Due {
         String got = kinds(x, letter);
         if (!got.equals(want)) {
             tell(call + ": LINES " + got + ", due is " + want);
+        }
+    }
+
+    /** Texts of all that is to be seen must be alike. */
+    void alike(String call, String got, String want) {
+        asked++;
+        if (!got.equals(want)) {
+            tell(call + ": " + got + ", due is " + want);
         }
     }
 
