@@ -1525,11 +1525,11 @@ public final class GrownPost {
 
         /** Steps over what must stand here, or the text is wrong. */
         boolean pass(int code) {
-            if (codes[at] != code) {
+            if (at >= size || codes[at] != code) {
                 wrong = begins[at];
                 return false;
             }
-            step();
+            at++;
             return true;
         }
 

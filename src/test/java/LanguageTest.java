@@ -25,6 +25,10 @@ public final class LanguageTest {
         library(code);
         lengths(code);
         face(code, read("../shared/DOC.md"));
+        fields(GrownPost.class);
+        for (Class<?> inner : GrownPost.class.getDeclaredClasses()) {
+            fields(inner);
+        }
         due.close();
     }
 
@@ -83,6 +87,17 @@ public final class LanguageTest {
             count++;
         }
         due.is("classes", count <= 12, true);
+    }
+
+    /** No class has more than some twenty fields, and none has static state. */
+    private static void fields(Class<?> one) {
+        int own = 0;
+        for (java.lang.reflect.Field f : one.getDeclaredFields()) {
+            boolean constant = Modifier.isStatic(f.getModifiers());
+            own += constant ? 0 : 1;
+            due.is(f.getName() + " is static, but not final", constant && !Modifier.isFinal(f.getModifiers()), false);
+        }
+        due.is("many fields in " + one.getSimpleName(), own > 20, false);
     }
 
     private static void face(String code, String doc) {
